@@ -451,8 +451,9 @@ public final class FlexLayout {
 
         int clamp(int item, int size) {
             int maximum = rows[item][MAXIMUM];
+            int minimum = rows[item][MINIMUM];
             int lowered = maximum != AUTO && size > maximum ? maximum : size;
-            return Math.max(lowered, rows[item][MINIMUM]);
+            return lowered < minimum ? minimum : lowered;
         }
 
         int hypothetical(int item) {
