@@ -11,6 +11,9 @@ public final class FlexTest {
         justify();
         justifyOverflow();
         gapsAndDirections();
+        singlePixels();
+        gapsInLaterLines();
+        twentyItems();
         wrongArguments();
         Check.end();
     }
@@ -208,6 +211,64 @@ public final class FlexTest {
         Make.boxes("column reversed, from its start", layout, Make.Y, 90, 63, 26);
         layout.setProperty(2, Make.ORDER, -1);
         Make.boxes("and in sequence", layout, Make.Y, 53, 26, 70);
+    }
+
+    private static void singlePixels() {
+        FlexLayout layout = Make.row(21, 10, 10);
+        Make.setAll(layout, Make.GROW, 1, 1);
+        Make.boxes("one pixel to grow", layout, Make.WIDTH, 11, 10);
+        layout.setMainSize(19);
+        Make.boxes("one pixel to shrink", layout, Make.WIDTH, 9, 10);
+        layout.setProperty(0, Make.MINIMUM, 10);
+        Make.boxes("a violation of one pixel", layout, Make.WIDTH, 10, 9);
+        line("a violation of one pixel", layout, 2, 0);
+        layout.setMainSize(21);
+        layout.setProperty(0, Make.MAXIMUM, 10);
+        Make.boxes("a violation of minus one", layout, Make.WIDTH, 10, 11);
+        line("a violation of minus one", layout, 2, 0);
+        FlexLayout pair = Make.row(51, 10, 20);
+        pair.setSetting(Make.JUSTIFY, 3);
+        Make.boxes("space between two", pair, Make.X, 0, 31);
+    }
+
+    private static void gapsInLaterLines() {
+        FlexLayout layout = Make.row(50, 50, 10, 10, 10, 40, 20);
+        layout.setSetting(Make.WRAP, 1);
+        layout.setGaps(5, 0);
+        Make.setAll(layout, Make.GROW, 0, 1, 1, 2, 0, 0);
+        Make.boxes("sizes of later lines", layout, Make.WIDTH, 50, 13, 12, 15, 40, 20);
+        Make.boxes("positions in later lines", layout, Make.X, 0, 0, 18, 35, 0, 0);
+        int[] free = {0, 0, 10, 30};
+        for (int index = 0; index < 4; index++) {
+            Check.due("free space of " + index, layout.freeSpace(index), free[index]);
+        }
+    }
+
+    private static void twentyItems() {
+        FlexLayout layout = new FlexLayout();
+        for (int item = 0; item < 20; item++) {
+            layout.addItem(1, 1);
+            layout.setProperty(item, Make.GROW, 1);
+        }
+        layout.setMainSize(205);
+        for (int item = 0; item < 20; item++) {
+            Check.due("width of " + item, layout.box(item, Make.WIDTH), item < 5 ? 11 : 10);
+        }
+        line("twenty grow", layout, 1, 0);
+        layout.setSetting(Make.WRAP, 1);
+        layout.setMainSize(1);
+        layout.setCrossSize(45);
+        Check.due("twenty lines", layout.lines(), 20);
+        for (int item = 0; item < 20; item++) {
+            Check.due("line of " + item, layout.lineOf(item), item);
+            Check.due("rounds of " + item, layout.rounds(item), 1);
+            Check.due("y of " + item, layout.box(item, Make.Y), item < 5 ? 3 * item : 5 + 2 * item);
+            Check.due("cross size of " + item, layout.lineCross(item), item < 5 ? 3 : 2);
+            Check.due("under the point", layout.itemUnder(0, item < 5 ? 3 * item : 5 + 2 * item), item);
+            Check.due("share of " + item, layout.share(39, Make.GROW, item), item < 19 ? 2 : 1);
+        }
+        Check.due("no overlaps", layout.overlaps(), 0);
+        Check.thrown("line 20", IndexOutOfBoundsException.class, () -> layout.rounds(20));
     }
 
     private static void wrongArguments() {
