@@ -679,13 +679,13 @@ public final class FlexLayout {
             roundCounts[line] = 0;
             // Every round freezes an item at least, so there are never more rounds than items.
             for (int round = 1; round <= MAX_ITEMS && !isFrozen(arrangement, line); round++) {
-                int free = freeBeforeRound(container, arrangement, line);
+                int free = spaceLeft(container, arrangement, line);
                 weigh(container, arrangement, division, line, grows, free);
                 division.divide(Math.abs(free), arrangement.starts[line + 1] - arrangement.starts[line]);
                 freeze(arrangement, line, resize(container, arrangement, division, line, grows));
                 roundCounts[line] = round;
             }
-            freeSpaces[line] = freeBeforeRound(container, arrangement, line);
+            freeSpaces[line] = spaceLeft(container, arrangement, line);
         }
 
         /** Returns whether the line grows. */
@@ -717,7 +717,7 @@ public final class FlexLayout {
             return true;
         }
 
-        private int freeBeforeRound(Container container, Arrangement arrangement, int line) {
+        private int spaceLeft(Container container, Arrangement arrangement, int line) {
             int free = arrangement.available(container, line);
             for (int place = arrangement.starts[line]; place < arrangement.starts[line + 1]; place++) {
                 int item = arrangement.sequence[place];

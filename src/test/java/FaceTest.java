@@ -19,7 +19,8 @@ public final class FaceTest {
     private static final Path DOCUMENT = Path.of("../shared/DOC.md");
     private static final List<String> NOT_ALLOWED = List.of("\\btry\\b", "\\bcatch\\b", "\\bfinally\\b",
             "\\bsynchronized\\b", "\\bassert\\b", "->", "::", "Exact\\(", "\\bprotected\\b", "\\bpackage\\b",
-            "\\bSystem\\.(?!arraycopy\\b)", "\\bstatic (?!final |class )(?:int|long|char|boolean|String)(?:\\[\\])* \\w+ ?[=;]",
+            "\\bSystem\\.(?!arraycopy\\b)",
+            "\\bstatic (?!final |class )(?:int|long|char|boolean|String)(?:\\[\\])* \\w+ ?[=;]",
             "\\bimport (?!java\\.util\\.NoSuchElementException;)", "\\bRandom\\b", "\\bThread\\b", "[^\\x00-\\x7f]");
 
     public static void main(String[] args) throws IOException {
@@ -78,7 +79,8 @@ public final class FaceTest {
 
     private static void language() throws IOException {
         String source = Files.readString(SOURCE);
-        String code = source.replaceAll("(?s)/\\*.*?\\*/", "").replaceAll("//[^\n]*", "").replaceAll("\"[^\"\n]*\"", "\"\"");
+        String code = source.replaceAll("(?s)/\\*.*?\\*/", "").replaceAll("//[^\n]*", "")
+                .replaceAll("\"[^\"\n]*\"", "\"\"");
         for (String rule : NOT_ALLOWED) {
             Matcher matcher = Pattern.compile(rule).matcher(code);
             Check.due("found " + rule, matcher.find(), false);
