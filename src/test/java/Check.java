@@ -6,6 +6,7 @@ final class Check {
 
     private static int wrong = 0;
     private static int made = 0;
+    private static String about = "";
 
     private Check() {
     }
@@ -33,10 +34,26 @@ final class Check {
         }
     }
 
+    static void same(String what, String got, String want) {
+        made++;
+        if (!got.equals(want)) {
+            tell(what + ": answered\n" + got + "\ndue is\n" + want);
+        }
+    }
+
+    /** What the next faults break. */
+    static void about(String words) {
+        about = words;
+    }
+
+    static int made() {
+        return made;
+    }
+
     static void tell(String fault) {
         wrong++;
         if (wrong <= 40) {
-            System.out.println(fault);
+            System.out.println((about.isEmpty() ? "" : about + ": ") + fault);
         }
     }
 
