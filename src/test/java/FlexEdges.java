@@ -133,7 +133,24 @@ final class FlexEdges {
             line("the last one has the rest", layout, 8, 0, 0, 2528, 2512, 1880, 1244, 772, 460, 603);
             Make.setAll(layout, Make.GROW, 0, 0, 0, 0, 0, 0, 0, 0);
             line("no round", layout, 0, 9999, 0, 0, 0, 0, 0, 0, 0, 0);
+            twentyRounds();
         });
+    }
+
+    /** As many rounds as there can be: each minimum is broken only when all those ahead of it are frozen. */
+    private static void twentyRounds() {
+        int[] minima = {793, 2493, 104, 1644, 187, 4, 70, 1405, 274, 138, 470, 86, 28, 246, 16, 192, 126, 4, 27, 0};
+        FlexLayout layout = Make.row(8312,
+                793, 6624, 290, 2673, 501, 6, 140, 2875, 970, 934, 1081, 392, 102, 287, 109, 313, 141, 20, 45, 10);
+        Make.setAll(layout, Make.SHRINK,
+                99, 78, 75, 43, 70, 44, 56, 57, 80, 95, 63, 87, 81, 16, 95, 43, 12, 90, 44, 43);
+        Make.setAll(layout, Make.MINIMUM, minima);
+        int[] widths = minima.clone();
+        widths[19] = 5;
+        line("a round for each of twenty items", layout, 20, 0, widths);
+        layout.setProperty(19, Make.MINIMUM, 6);
+        widths[19] = 6;
+        line("the last one at its minimum too", layout, 20, -1, widths);
     }
 
     private static void freeSpaceOfRound() {
